@@ -1154,7 +1154,7 @@ public final class FeastRules {
                 } else {
                     refuse(FAULT_TEXT, start);
                 }
-                passSign(';');
+                pass(isSign(';'));
                 if (fault != 0) {
                     return;
                 }
@@ -1170,11 +1170,11 @@ public final class FeastRules {
             int name = newName();
             Rule rule = told.openRule();
             rule.clearParts();
-            passWord("every");
+            pass(isWord("every"));
             rule.step = number(1, MOST_STEP);
             rule.unit = wordAmong(UNIT_WORDS);
             pass(rule.unit != NONE);
-            passWord("from");
+            pass(isWord("from"));
             rule.beginAt(dateText());
             int parts = 0;
             int part = wordAmong(PART_WORDS);
@@ -1276,7 +1276,7 @@ public final class FeastRules {
             }
             advance();
             int name = newName();
-            passWord("is");
+            pass(isWord("is"));
             sumText(0);
             told.closeSet(name);
         }
@@ -1315,7 +1315,7 @@ public final class FeastRules {
             } else if (isSign('(')) {
                 advance();
                 sumText(open + 1);
-                passSign(')');
+                pass(isSign(')'));
             } else if (isWord("day")) {
                 advance();
                 daysText();
@@ -1343,9 +1343,9 @@ public final class FeastRules {
 
         private int dateText() {
             int year = number(YEAR_ZERO, YEAR_ZERO + YEARS_TOLD - 1) - YEAR_ZERO;
-            passSign('-');
+            pass(isSign('-'));
             int month = number(1, 12);
-            passSign('-');
+            pass(isSign('-'));
             if (fault != 0) {
                 return 0;
             }
@@ -1449,14 +1449,7 @@ public final class FeastRules {
             return kind == SIGN && start < length && text[start] == sign;
         }
 
-        private void passWord(String word) {
-            pass(isWord(word));
-        }
-
-        private void passSign(char sign) {
-            pass(isSign(sign));
-        }
-
+        /** Goes on behind what is right there; else no text goes on so. */
         private void pass(boolean right) {
             if (right) {
                 advance();
