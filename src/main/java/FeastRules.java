@@ -1249,24 +1249,21 @@ public final class FeastRules {
                 return number(1, 12);
             }
             boolean back = isSign('-');
-            int number = 0;
-            if (part == PART_BY && (back || kind == NUMBER) && unit < UNIT_MONTHS) {
+            boolean placed = back || kind == NUMBER;
+            if (part == PART_BY && placed && unit < UNIT_MONTHS) {
                 refuse(FAULT_AGAIN, start);
             }
             if (back) {
                 advance();
             }
-            if (back || kind == NUMBER || part != PART_BY) {
-                number = number(1, part == PART_ON ? 31 : part == PART_BY ? 53 : 99);
-            }
+            int number = part == PART_BY && !placed ? 0 : number(1, part == PART_ON ? 31 : part == PART_BY ? 53 : 99);
             int signed = back ? -number : number;
-            return part == PART_BY ? signed * 8 + weekday() : signed;
-        }
-
-        private int weekday() {
+            if (part != PART_BY) {
+                return signed;
+            }
             int weekday = wordAmong(WEEKDAY_WORDS);
             pass(weekday != NONE);
-            return Math.max(0, weekday);
+            return signed * 8 + Math.max(0, weekday);
         }
 
         private void setText() {

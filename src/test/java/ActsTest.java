@@ -9,7 +9,9 @@ public final class ActsTest {
         marksOutliveRules();
         steps();
         beginnings();
+        eachSet();
         chances();
+        chancesOfAll();
         fullChances();
         undoing();
         seeds();
@@ -161,6 +163,23 @@ public final class ActsTest {
         Check.days(x, 6, 30, 90, 151);
     }
 
+    private static void eachSet() {
+        StringBuilder text = new StringBuilder();
+        for (char c = 'a'; c < 'g'; c++) {
+            text.append("set ").append(c).append(" is day 2000-1-1;");
+        }
+        FeastRules x = Check.made(text.toString());
+        for (int set = 0; set < 6; set++) {
+            Check.due("add to set " + set, x.add(set, 10 + set), true);
+            Check.due("leave of set " + set, x.leave(set, 0), true);
+        }
+        for (int set = 0; set < 6; set++) {
+            Check.days(x, 6 + set, 10 + set);
+        }
+        Check.due("has(2)", x.has(2), 6);
+        Check.due("has(3)", x.has(3), 6);
+    }
+
     private static long seed;
 
     private static int draw(int m) {
@@ -202,6 +221,21 @@ public final class ActsTest {
             Check.due("left out", all.on(6, draw(14610)), 0);
         }
         Check.due("has(3)", all.has(3), 2);
+    }
+
+    private static void chancesOfAll() {
+        FeastRules x = Check.made("rule a every 1 days from 2000-1-1;set n is a less a;set s is a;set m is n;");
+        seed = 1;
+        Check.due("chance(20)", x.chance(20), 20);
+        int added = 0;
+        for (int i = 0; i < 20; i++) {
+            int set = draw(3);
+            int day = draw(14610);
+            Check.due("of set " + set, x.on(6 + set, day), set == 1 ? 0 : 1);
+            added += set == 1 ? 0 : 1;
+        }
+        Check.due("has(2)", x.has(2), added);
+        Check.due("has(3)", x.has(3), 20 - added);
     }
 
     private static void fullChances() {

@@ -49,6 +49,11 @@ public final class BookTest {
         fault(1, "rule^");
         fault(1, "rule ^every every 1 days");
         fault(1, "rule ^mon every 1 days");
+        for (String own : FaultModel.OWN) {
+            fault(1, "rule ^" + own + " every 1 days from 2000-1-1;");
+            fault(1, R + ";set ^" + own + " is a;");
+            fault(1, R + ";set b is a off ^" + own + ";");
+        }
         fault(1, "rule ^7 every 1 days");
         fault(1, "rule abcdef^g every 1 days");
         fault(1, "rule monday^s every 1 days");
@@ -296,12 +301,30 @@ public final class BookTest {
         Check.due("rule(-1, 0)", x.rule(-1, 0), -1);
         Check.due("rule(6, 0)", x.rule(6, 0), -1);
         // Parts of an earlier book must not come through.
-        Check.book(x, "rule a every 1 days from 2000-1-1;");
-        Check.book(x, "rule a every 1 days from 2000-1-1;");
+        for (int i = 0; i < 2; i++) {
+            Check.due("book() anew", Check.book(x, "rule a every 1 days from 2000-1-1;"), 1);
+        }
         int[] bare = {1, 0, 0, 0, 0, 0, 0, -1, -1};
         for (int i = 0; i < 9; i++) {
             Check.due("rule(0, " + i + ") anew", x.rule(0, i), bare[i]);
         }
         Check.due("days of it", x.many(0, 0, 14609), 14610);
+        rowsAnew();
+    }
+
+    private static void rowsAnew() {
+        FeastRules x = new FeastRules();
+        for (int i = 1; i <= 6; i++) {
+            String rest = " in " + i + " on " + i + ",-" + (i + 9) + " by " + Model.WEEKDAYS[i] + " at " + i + ",9";
+            FeastRules y = Check.made("rule a every 1 years from 2000-1-1" + rest + ";set b is day 2000-1-" + i + ";");
+            Check.book(x, "rule a every 1 years from 2000-1-1" + rest + ";set b is day 2000-1-" + i + ";");
+            Check.due("rule, book " + i, x.sum(0), y.sum(0));
+            Check.due("months, book " + i, x.rule(0, 3), 1 << i);
+            Check.days(x, 6, i - 1);
+            Check.due("a book of a set alone", Check.book(x, "set b is day 2000-2-" + i + ";"), 1);
+            Check.days(x, 6, 30 + i);
+            Check.due("another one", Check.book(x, "set c is day 2000-3-" + i + ";"), 1);
+            Check.days(x, 6, 59 + i);
+        }
     }
 }

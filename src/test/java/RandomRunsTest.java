@@ -15,23 +15,34 @@ public final class RandomRunsTest {
         int runs = args.length > 0 ? Integer.parseInt(args[0]) : 250;
         for (int seed = 0; seed < runs && Check.wrong() == 0; seed++) {
             random = new Random(seed);
-            m = new Model();
             x = new FeastRules();
-            String text = new Maker(random).fill(m);
-            if (text.length() > 1600) {
-                continue;
-            }
-            run = "run " + seed + ": ";
-            int before = Check.wrong();
-            due("book()", Check.book(x, text), m.now.rules.size() + m.sets.size());
-            for (int i = 0; i < 200; i++) {
-                call();
-            }
-            if (Check.wrong() > before) {
-                System.out.println("the book: " + text);
+            m = new Model();
+            for (int book = 1; book <= 3 && Check.wrong() == 0; book++) {
+                Model fresh = new Model();
+                String text = new Maker(random).fill(fresh);
+                if (text.length() > 1600) {
+                    continue;
+                }
+                run = "run " + seed + ", book " + book + ": ";
+                anotherBook(fresh, text);
+                for (int i = 0; i < 80; i++) {
+                    call();
+                }
+                if (Check.wrong() > 0) {
+                    System.out.println("the book: " + text);
+                }
             }
         }
         Check.close("RandomRunsTest");
+    }
+
+    private static void anotherBook(Model fresh, String text) {
+        due("a book with a fault", Check.book(x, text + "x"), -1);
+        fresh.x = m.x;
+        System.arraycopy(m.refused, 0, fresh.refused, 0, 6);
+        fresh.refused[1]++;
+        m = fresh;
+        due("book()", Check.book(x, text), m.now.rules.size() + m.sets.size());
     }
 
     private static void due(String call, long got, long want) {

@@ -49,6 +49,9 @@ public final class SetDaysTest {
         days("day 2000-1-1,2000-4-8 later 99", 99, 197);
         days("day 2000-1-1,2000-3-9,2000-3-5 sooner 64", 0, 4);
         days("day 2000-4-9,2000-4-8 sooner 99", 0);
+        days("day 2000-3-15,2000-3-4 sooner 20", 43, 54);
+        days("day 2000-5-8,2000-5-7 sooner 70", 57, 58);
+        days("day 2000-2-28 later 20", 78);
         days("a and day 2000-1-1");
     }
 
@@ -83,6 +86,9 @@ public final class SetDaysTest {
     private static void deep() {
         days("a or b and(b or a and(a or b and(b or a and(a or b and(b or a and(a or b and a)))))) ", 0, 2, 3, 4, 6);
         days("b or b and(b or b and(b or b and(b or b and(b or b and(b or b and(b or b and b less a))))))", 0, 2, 4, 6);
+        FeastRules x = Check.made("rule u every 1 days from 2000-1-1;set s is day 2000-1-1 or u and(day 2000-1-2 or u and(day 2000-1-3 or u and("
+            + "day 2000-1-4 or u and(day 2000-1-5 or u and(day 2000-1-6 or u and(day 2000-1-7 or u and day 2000-1-8 or day 2000-1-10))))));");
+        Check.days(x, 6, 0, 1, 2, 3, 4, 5, 6, 7, 9);
         days("((((((a))))))or((((((b))))))", 0, 2, 3, 4, 6);
     }
 }

@@ -89,6 +89,19 @@ public final class SightTest {
         Check.see(x, 1, 14609, 0);
         Check.due("nothing tells in 2039", x.tells(0), 14245);
         Check.due("nothing tells in 2039", x.tells(1), 60);
+        Check.see(x, 0, 2 + 61, 1, 2, 1);
+        Check.due("one fits", x.tells(0), 0);
+        Check.due("one fits", x.tells(1), 1);
+        FeastRules y = Check.made("rule a every 1 years from 2001-1-1;rule b every 1 years from 2000-1-1;rule c every 1 years from 2000-12-31;");
+        Check.see(y, 0, 400, 0);
+        Check.due("not a day of the year behind", y.tells(0), 366);
+        Check.due("not a day of the year behind", y.tells(1), 60);
+        Check.see(y, 1, 762, 0);
+        Check.due("the first day of a year", y.tells(0), 731);
+        Check.due("the first day of a year", y.tells(1), 58);
+        Check.see(y, 2, 1500, 0);
+        Check.due("the last day of a leap year", y.tells(0), 1826);
+        Check.due("the last day of a leap year", y.tells(1), 57);
     }
 
     private static void staying() {
