@@ -8,6 +8,7 @@ public final class SetDaysTest {
         off();
         ofOneAnother();
         deep();
+        longest();
         Check.close("SetDaysTest");
     }
 
@@ -90,5 +91,15 @@ public final class SetDaysTest {
             + "day 2000-1-4 or u and(day 2000-1-5 or u and(day 2000-1-6 or u and(day 2000-1-7 or u and day 2000-1-8 or day 2000-1-10))))));");
         Check.days(x, 6, 0, 1, 2, 3, 4, 5, 6, 7, 9);
         days("((((((a))))))or((((((b))))))", 0, 2, 3, 4, 6);
+    }
+
+    /** As many steps as a tape can tell: none is lost at its end. */
+    private static void longest() {
+        String end = " or day 2039-12-31;";
+        StringBuilder text = new StringBuilder(BOOK + "set s is a");
+        for (int i = 0; text.length() + end.length() + 5 <= 1600; i++) {
+            text.append(i % 2 == 0 ? " or b" : " or a");
+        }
+        Check.days(Check.made(text + end), 6, 0, 2, 3, 4, 6, 14609);
     }
 }
