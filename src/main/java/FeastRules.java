@@ -1236,11 +1236,12 @@ public final class FeastRules {
             if (!isSign(',')) {
                 return false;
             }
+            advance();
             if (row.size >= MOST_IN_ROW) {
-                refuse(end < length ? FAULT_MANY : FAULT_TEXT, end);
+                // Blanks are no part of a row: where nothing else follows, there is no ninth and the text ends too soon.
+                refuse(kind == END ? FAULT_TEXT : FAULT_MANY, start);
                 return false;
             }
-            advance();
             return true;
         }
 

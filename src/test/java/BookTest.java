@@ -127,6 +127,10 @@ public final class BookTest {
         fault(1, R + ";set b is a off abcdef^gh;");
         fault(1, R + " ^untiluntil;");
         fault(1, R + " at 1,2,3,4,5,6,7,8,^");
+        fault(1, R + " at 1,2,3,4,5,6,7,8,       ^");
+        fault(1, R + " in 1,2,3,4,5,6,7,8 ,\n^");
+        fault(1, M + " by 1 mon,mon,tue,wed,thu,fri,sat,sun, \n ^");
+        fault(1, "set b is day 2000-1-1,2000-1-2,2000-1-3,2000-1-4,2000-1-5,2000-1-6,2000-1-7,2000-1-8, ^");
     }
 
     private static void numberFaults() {
@@ -212,10 +216,15 @@ public final class BookTest {
         right(12, six + "" + sets);
         fault(5, R + " in 1,2,3,4,5,6,7,8,^9;");
         fault(5, R + " in 1,2,3,4,5,6,7,8,^x;");
-        fault(5, R + " on 1,2,3,4,5,6,7,8,^ 9;");
+        fault(5, R + " on 1,2,3,4,5,6,7,8, ^9;");
+        fault(5, R + " at 1,2,3,4,5,6,7,8,\n ^-9;");
+        fault(5, R + " at 1,2,3,4,5,6,7,8, ^;");
+        fault(5, R + " at 1,2,3,4,5,6,7,8,^12345;");
+        fault(5, R + " at 1,2,3,4,5,6,7,8,^#");
         fault(5, R + " at 1,2,3,4,5,6,7,8 ,^8;");
         fault(5, M + " by 1 mon,mon,tue,wed,thu,fri,sat,sun,^2 mon;");
         fault(5, "set b is day 2000-1-1,2000-1-2,2000-1-3,2000-1-4,2000-1-5,2000-1-6,2000-1-7,2000-1-8,^2000-1-9;");
+        fault(5, "set b is day 2000-1-1,2000-1-2,2000-1-3,2000-1-4,2000-1-5,2000-1-6,2000-1-7,2000-1-8, ^2000-1-9;");
         fault(5, R + ";set b is ((((((^(a)))))));");
         fault(5, R + ";set b is ((((((a)or a)or a)or a)or(a)or((((^(a");
         right(2, R + ";set b is ((((((a))))))or((((((a))))));");

@@ -46,7 +46,7 @@ public final class RandomFaultsTest {
         int at = random.nextInt(text.length() + 1);
         int kind = random.nextInt(5);
         if (kind == 0) {
-            return text.substring(0, at);
+            return text.substring(0, at) + " ".repeat(random.nextInt(3));
         }
         if (kind == 1) {
             int end = Math.min(text.length(), at + 1 + random.nextInt(3));

@@ -29,13 +29,11 @@ final class FaultModel {
 
     private final List<Piece> pieces = new ArrayList<>();
     private final int length;
-    private final String text;
     private int at = 0;
     private final Set<String> rules = new HashSet<>();
     private final Set<String> sets = new HashSet<>();
 
     private FaultModel(String text) {
-        this.text = text;
         length = text.length();
         java.util.regex.Matcher m = java.util.regex.Pattern.compile("[a-z]+|[0-9]+|[^ \n]").matcher(text);
         int end = -1;
@@ -137,11 +135,10 @@ final class FaultModel {
             if (!now().equals(",")) {
                 return;
             }
-            if (told.size() == 8) {
-                int behind = place() + 1;
-                throw behind < length ? new Fault(5, behind) : new Fault(1, length);
-            }
             at++;
+            if (told.size() == 8) {
+                throw new Fault(at < pieces.size() ? 5 : 1, place());
+            }
         }
     }
 
