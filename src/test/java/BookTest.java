@@ -129,6 +129,7 @@ public final class BookTest {
         fault(1, R + " at 1,2,3,4,5,6,7,8,^");
         fault(1, R + " at 1,2,3,4,5,6,7,8,       ^");
         fault(1, R + " in 1,2,3,4,5,6,7,8 ,\n^");
+        fault(1, R + " on 1,2,3,4,-5,-6,-7,-8, ^");
         fault(1, M + " by 1 mon,mon,tue,wed,thu,fri,sat,sun, \n ^");
         fault(1, "set b is day 2000-1-1,2000-1-2,2000-1-3,2000-1-4,2000-1-5,2000-1-6,2000-1-7,2000-1-8, ^");
     }
