@@ -1,7 +1,7 @@
 /** Promises 4 to 8: texts, their faults, names and parts. */
 public final class BookTest {
-    private static final String R = "rule a every 1 days from 2000-1-1";
-    private static final String M = "rule a every 1 months from 2000-1-1";
+    private static final String R = Texts.R;
+    private static final String M = Texts.M;
 
     public static void main(String[] args) {
         textFaults();
@@ -16,26 +16,12 @@ public final class BookTest {
         Check.close("BookTest");
     }
 
-    /** A text with ^ ahead of the byte at which it has the fault. */
     private static void fault(int fault, String marked) {
-        int place = marked.indexOf('^');
-        String text = marked.substring(0, place) + marked.substring(place + 1);
-        FeastRules x = new FeastRules();
-        Check.due("book() of " + marked, Check.book(x, text), -1);
-        Check.due("fault(0) of " + marked, x.fault(0), fault);
-        Check.due("fault(1) of " + marked, x.fault(1), place);
-        Check.due("fault(2) of " + marked, x.fault(2), -1);
-        Check.due("fault(-1) of " + marked, x.fault(-1), -1);
-        Check.due("status(1) of " + marked, x.status(1), 1);
-        Check.due("has(0) of " + marked, x.has(0) + x.has(1), 0);
+        Texts.fault(fault, marked);
     }
 
     private static void right(int statements, String text) {
-        FeastRules x = new FeastRules();
-        Check.due("book() of " + text, Check.book(x, text), statements);
-        Check.due("fault(0) of " + text, x.fault(0), 0);
-        Check.due("fault(1) of " + text, x.fault(1), -1);
-        Check.due("status(1) of " + text, x.status(1), 0);
+        Texts.right(statements, text);
     }
 
     private static void textFaults() {

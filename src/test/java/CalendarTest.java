@@ -14,7 +14,7 @@ public final class CalendarTest {
             }
             date = date.plusDays(1);
         }
-        wrongInputs(x);
+        wrongInputs(new FeastRules());
         Check.close("CalendarTest");
     }
 

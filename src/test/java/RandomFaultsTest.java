@@ -14,6 +14,8 @@ public final class RandomFaultsTest {
         int[] kinds = new int[6];
         FeastRules x = new FeastRules();
         for (int seed = 0; seed < runs; seed++) {
+            // Some 84 calls a text at the most; an object is promised for 512.
+            x = seed % 6 == 0 ? new FeastRules() : x;
             Random random = new Random(seed);
             String text = new Maker(random).fill(new Model());
             if (random.nextInt(4) == 0) {

@@ -12,12 +12,12 @@ public final class RandomRunsTest {
     private static String run;
 
     public static void main(String[] args) {
-        int runs = args.length > 0 ? Integer.parseInt(args[0]) : 250;
+        int runs = args.length > 0 ? Integer.parseInt(args[0]) : 375;
         for (int seed = 0; seed < runs && Check.wrong() == 0; seed++) {
             random = new Random(seed);
             x = new FeastRules();
             m = new Model();
-            for (int book = 1; book <= 3 && Check.wrong() == 0; book++) {
+            for (int book = 1; book <= 2 && Check.wrong() == 0; book++) {
                 Model fresh = new Model();
                 String text = new Maker(random).fill(fresh);
                 if (text.length() > 1600) {

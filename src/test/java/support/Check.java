@@ -1,4 +1,6 @@
 import java.nio.charset.StandardCharsets;
+import java.time.LocalDate;
+import java.time.temporal.ChronoUnit;
 
 /** Counts answers that are not the ones that are due. */
 final class Check {
@@ -26,6 +28,10 @@ final class Check {
         return wrong;
     }
 
+    static int asked() {
+        return asked;
+    }
+
     /** Ends a test: exit code 1 if an answer was wrong, or if nothing was asked. */
     static void close(String test) {
         System.out.println(test + ": " + asked + " answers, " + wrong + " wrong");
@@ -34,8 +40,9 @@ final class Check {
         }
     }
 
-    /** Puts bytes on an empty tape. */
+    /** The tape has these bytes alone. */
     static void tape(FeastRules x, byte[] bytes) {
+        x.end(0);
         for (int i = 0; i < bytes.length; i += 20) {
             int[] five = new int[5];
             for (int k = 0; k < 20; k++) {
@@ -86,6 +93,11 @@ final class Check {
             int got = x.date(day, 0) * 10000 + x.date(day, 1) * 100 + x.date(day, 2);
             due("date of nth(" + what + ", " + k + ")", got, want[k]);
         }
+    }
+
+    /** The day of a date, by the library's calendar. */
+    static int dayOf(int year, int month, int date) {
+        return (int) ChronoUnit.DAYS.between(LocalDate.of(2000, 1, 1), LocalDate.of(year, month, date));
     }
 
     /** see() of rows of a day and whether it is of the rule. */
