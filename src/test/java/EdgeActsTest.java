@@ -86,6 +86,15 @@ public final class EdgeActsTest {
         Check.due("one ADDED less", y.leave(0, 39), true);
         Check.due("room for one", y.add(0, 1020), true);
         has(y, 20, 19, 20);
+        // One from among the twenty is ADDED no more; the others are.
+        FeastRules z = Check.made("set e is day 2000-1-1 less day 2000-1-1;");
+        for (int i = 0; i < 20; i++) {
+            z.add(0, 100 + i);
+        }
+        Check.due("the eighth", z.leave(0, 107), true);
+        Check.due("the first", z.leave(0, 100), true);
+        Check.days(z, 6, 101, 102, 103, 104, 105, 106, 108, 109, 110, 111, 112, 113, 114, 115, 116, 117, 118, 119);
+        has(z, 18, 0, 20);
     }
 
     private static void leaveADay() {
@@ -183,6 +192,15 @@ public final class EdgeActsTest {
         FeastRules six = Check.made(Texts.rules(6));
         Check.due("every(5, 2)", six.every(5, 2), true);
         Check.due("every(6, 2)", six.every(6, 2), false);
+        // Of that rule alone, and of the sets that have it.
+        FeastRules two = Check.made("rule a every 3 days from 2000-1-1 count 2;rule b every 3 days from 2000-1-1 count 2;set s is b;");
+        Check.days(two, 6, 0, 3);
+        Check.due("every(1, 4)", two.every(1, 4), true);
+        Check.days(two, 6, 0, 4);
+        Check.days(two, 0, 0, 3);
+        Check.due("undo", two.undo(), true);
+        Check.days(two, 6, 0, 3);
+        Check.due("rule(1, 0)", two.rule(1, 0), 3);
     }
 
     private static void anotherBeginning() {
@@ -210,6 +228,14 @@ public final class EdgeActsTest {
         FeastRules six = Check.made(Texts.rules(6));
         Check.due("from(5, 1)", six.from(5, 1), true);
         Check.due("from(6, 1)", six.from(6, 1), false);
+        FeastRules two = Check.made("rule a every 3 days from 2000-1-1 count 2;rule b every 3 days from 2000-1-1 count 2;set s is b;");
+        Check.days(two, 6, 0, 3);
+        Check.due("from(1, 1)", two.from(1, 1), true);
+        Check.days(two, 6, 1, 4);
+        Check.days(two, 0, 0, 3);
+        Check.due("undo", two.undo(), true);
+        Check.days(two, 6, 0, 3);
+        Check.due("rule(1, 2)", two.rule(1, 2), 0);
     }
 
     private static void timesOfChance() {
@@ -288,6 +314,17 @@ public final class EdgeActsTest {
         all.seed(9);
         Check.due("chance(1)", all.chance(1), 1);
         has(all, 0, 0, 2);
+        // Of sets that are unlike, by what each one has: e is empty, w whole.
+        FeastRules both = Check.made("rule r every 1 days from 2000-1-1;set e is r less r;set w is r;");
+        Check.due("chance(30)", both.chance(30), 30);
+        int added = both.many(6, 0, LAST);
+        Check.due("both were drawn", added > 0 && added < 30, true);
+        has(both, added, 30 - added, 1);
+        Check.due("days of w", both.many(7, 0, LAST), 14610 - (30 - added));
+        Check.due("undo", both.undo(), true);
+        has(both, 0, 0, 0);
+        Check.due("days of e", both.many(6, 0, LAST), 0);
+        Check.due("days of w", both.many(7, 0, LAST), 14610);
     }
 
     /** The seed behind a draw, by numbers that hold it whole. */

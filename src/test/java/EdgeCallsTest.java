@@ -181,6 +181,33 @@ public final class EdgeCallsTest {
         Check.due("the N of the text", x.rule(0, 0), 2);
         Check.due("no rule of the book ahead", x.rule(1, 0), -1);
         Check.due("no set of the book ahead", x.on(8, 0), -1);
+        for (String part : new String[] {"", " in 3", " on 3,-3", " by 1 fri", " by fri on 7", " at 1", " until 2001-1-1", " count 4"}) {
+            freshBehindOthers("rule a every 1 months from 2000-1-31" + part + ";set s is a;set t is s or a;");
+        }
+        FeastRules sets = Check.made("set s is day 2000-1-1;set t is day 2000-1-2;");
+        Check.days(sets, 7, 1);
+        Check.due("a book of sets alone", Check.book(sets, "set s is day 2000-1-3;set t is s later 1;"), 2);
+        Check.days(sets, 6, 2);
+        Check.days(sets, 7, 3);
+    }
+
+    /** A book is as on a new object, also behind two others and one with a fault that have all there is. */
+    private static void freshBehindOthers(String text) {
+        String rich = "rule a every 1 years from 2000-1-1 in 1,2 on 1,-1,2 by sat,1 sun,-1 mon at 1,2,-1 until 2000-3-1 count 2;"
+            + "set s is a or day 2000-1-9;set t is s later 2;";
+        FeastRules x = Check.made(rich);
+        Check.due("days of a book ahead", x.many(8, 0, 14609), -1);
+        Check.due("days of a book ahead", x.many(7, 0, 14609) > 0, true);
+        Check.book(x, rich);
+        Check.due("with a fault", Check.book(x, rich + "x"), -1);
+        Check.due("book() of " + text, Check.book(x, text), 3);
+        FeastRules fresh = Check.made(text);
+        for (int what = 0; what < 9; what++) {
+            Check.due("rule(0, " + what + ") of " + text, x.rule(0, what), fresh.rule(0, what));
+        }
+        for (int what : new int[] {0, 6, 7}) {
+            Check.due("sum(" + what + ") of " + text, x.sum(what), fresh.sum(what));
+        }
     }
 
     private static void seedStaysWithABook() {

@@ -118,6 +118,9 @@ public final class EdgeDaysTest {
         days("1 weeks from 2000-1-3 count 2", 2, 9);
         days("1 weeks from 2039-12-24", LAST - 7, LAST);
         days("1 weeks from 2039-12-25", LAST - 6);
+        // With one weekday told, the beginning's does not count.
+        days("1 weeks from 2000-1-1 by sun count 2", 1, 8);
+        days("1 weeks from 2000-1-1 by fri count 2", 6, 13);
     }
 
     private static void datesFromTheEnd() {
@@ -190,6 +193,8 @@ public final class EdgeDaysTest {
         days(rule + "52 mon", d(2000, 12, 25));
         days(rule + "-52 mon", 2);
         days("1 years from 2001-1-1 by 53 mon,53 sun,-53 tue until 2001-12-31", d(2001, 12, 31));
+        days("99 years from 2001-1-1 by -53 mon,-53 sun,-1 sun", d(2001, 1, 1), d(2001, 12, 30));
+        days("99 years from 2039-1-1 by -1 sat,-52 sun,-53 sun,-53 sat,53 fri", d(2039, 1, 1), d(2039, 1, 2), LAST);
     }
 
     private static void beginningsMonthAndDate() {
@@ -299,6 +304,10 @@ public final class EdgeDaysTest {
         // What went beyond an end does not come back.
         sum("day 2039-12-30,2039-12-31 later 1 sooner 1", LAST - 1);
         sum("day 2000-1-1,2000-1-2 sooner 1 later 1", 1);
+        for (int n : new int[] {1, 2, 62, 63, 64, 65, 98, 99}) {
+            sum("day 2000-1-1,2000-3-4,2000-3-5,2000-5-7,2000-5-8,2000-5-9 later " + n, n, n + 63, n + 64, n + 127, n + 128, n + 129);
+            sum("day 2000-4-9,2000-5-7,2000-5-8,2000-7-10,2000-7-11,2039-12-31 sooner " + n, 99 - n, 127 - n, 128 - n, 191 - n, 192 - n, LAST - n);
+        }
     }
 
     private static void offANamesDays() {
@@ -310,6 +319,11 @@ public final class EdgeDaysTest {
         sum("day 2039-12-29 off z");
         sum("day 2039-12-31,2000-1-5 off z", 4);
         sum("f off f", 3);
+        // Each one that is of it, not the first alone; from one word of bits into the next.
+        sum("(f or f later 61 or f later 99 or day 2000-3-1)off f", 3, 60, 61, 62, 63, 99, 100, 101);
+        FeastRules off = Check.made("rule b every 7 weeks from 2000-1-1 by sat,sun count 6;set s is b off b;set t is day 2000-1-1,2000-2-19,2000-2-21 off b;");
+        Check.days(off, 6, 2, 51, 100);
+        Check.days(off, 7, 2, 51);
         // Whole: there is no day that is not of it.
         FeastRules all = Check.made("rule w every 1 days from 2000-1-1;set s is day 2000-1-1 off w;set n is w less w;set t is w off n;");
         Check.days(all, 6);

@@ -202,5 +202,13 @@ public final class EdgeSightTest {
         fits(x, 1, 2, 3, 4, 6, 12);
         Check.due("undo refused", x.undo(), false);
         fits(x, 1, 2, 3, 4, 6, 12);
+        // FITS are of the rule as it is: by another beginning they are others.
+        Check.due("from", x.from(0, 3), true);
+        Check.due("has(4) behind from()", x.has(4), 1);
+        fits(x, 1, 3, 9);
+        tells(x, 4, 2);
+        Check.due("undo", x.undo(), true);
+        Check.due("has(4) behind undo()", x.has(4), 1);
+        fits(x, 1, 2, 3, 4, 6, 12);
     }
 }

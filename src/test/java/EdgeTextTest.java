@@ -479,5 +479,17 @@ public final class EdgeTextTest {
         fault(5, S + "((((((^(a)))))));");
         fault(5, S + "((((((a)or(^(a");
         fault(5, S + "a or((((((^(");
+        Check.days(Check.made(sixOpen(" count 9", "less")), 6, 0, 1, 2, 3, 5, 6, 7, 8, 31);
+        Check.days(Check.made(sixOpen("", "and")), 6, 4, 31, 32, 33, 34, 35, 36, 37);
+    }
+
+    /** Six that are open, each one behind a day of its own and the rule a, which wait for what is in it. */
+    private static String sixOpen(String part, String word) {
+        String rules = "rule a every 1 days from 2000-1-1" + part + ";rule b every 1 days from 2000-1-1 count 1;";
+        StringBuilder deep = new StringBuilder(rules + "set s is ");
+        for (int open = 1; open <= 6; open++) {
+            deep.append("b later ").append(30 + open).append(" or a ").append(word).append("(");
+        }
+        return deep + "b later 37 or a " + word + " b later 4" + "))))));";
     }
 }
