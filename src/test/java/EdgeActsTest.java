@@ -396,6 +396,17 @@ public final class EdgeActsTest {
             has(x, left[i][2], left[i][3], 4 - i);
         }
         Check.due("sum", x.sum(6), book().sum(6));
+        // What the latest did not change stays: day 0, left out of the first set; day 1, added to it.
+        FeastRules y = book();
+        y.leave(0, 0);
+        y.add(0, 1);
+        for (int i = 0; i < 4; i++) {
+            Check.due("another act", i == 0 ? y.add(1, 7) : i == 1 ? y.leave(1, 0) : i == 2 ? y.chance(3) == 3 : y.every(0, 9), true);
+            Check.due("undo", y.undo(), true);
+            has(y, 1, 1, 2);
+            Check.due("day 0 is LEFT OUT", y.on(6, 0), 0);
+            Check.due("day 1 is ADDED", y.on(6, 1), 1);
+        }
     }
 
     private static void nothingToUndo() {

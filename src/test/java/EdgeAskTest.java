@@ -63,6 +63,10 @@ public final class EdgeAskTest {
         Check.due("next(ENDS, 14608)", x.next(ENDS, LAST - 1), LAST);
         Check.due("next(ALL, 14608)", x.next(ALL, LAST - 1), LAST);
         Check.due("next(ONE, 1)", x.next(ONE, 1), 2);
+        for (int day = 0; day < 200; day++) {
+            Check.due("next(ENDS, " + day + ")", x.next(ENDS, day), LAST);
+            Check.due("next(ALL, " + day + ")", x.next(ALL, day), day + 1);
+        }
         for (int day : new int[] {MIN, -2, 14610, MAX}) {
             Check.due("next(ALL, " + day + ")", x.next(ALL, day), -1);
         }
@@ -86,6 +90,10 @@ public final class EdgeAskTest {
         Check.due("ahead(ENDS, 1)", x.ahead(ENDS, 1), 0);
         Check.due("ahead(ALL, 1)", x.ahead(ALL, 1), 0);
         Check.due("ahead(ONE, 3)", x.ahead(ONE, 3), 2);
+        for (int day = 1; day < 200; day++) {
+            Check.due("ahead(ENDS, " + day + ")", x.ahead(ENDS, day), 0);
+            Check.due("ahead(ALL, " + day + ")", x.ahead(ALL, day), day - 1);
+        }
         for (int day : new int[] {MIN, -1, 14611, MAX}) {
             Check.due("ahead(ALL, " + day + ")", x.ahead(ALL, day), -1);
         }
@@ -135,6 +143,10 @@ public final class EdgeAskTest {
         Check.due("many(CLUSTER, 2, 3)", x.many(CLUSTER, 2, 3), 1);
         Check.due("many(ALL, 0, 14609)", x.many(ALL, 0, LAST), 14610);
         Check.due("many(EMPTY, 0, 14609)", x.many(EMPTY, 0, LAST), 0);
+        for (int day = 1; day < 200; day++) {
+            Check.due("many(ENDS, 0, " + day + ")", x.many(ENDS, 0, day), 1);
+            Check.due("many(ALL, " + day + ", 200)", x.many(ALL, day, 200), 201 - day);
+        }
     }
 
     private static void manyThatCantBe() {

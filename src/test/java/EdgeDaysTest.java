@@ -112,6 +112,17 @@ public final class EdgeDaysTest {
         days("99 days from 2039-9-24", LAST - 98);
     }
 
+    private static void aPeriodOfOneDay() {
+        // That day alone: it is the first and the last of its period, and there is no second.
+        days("5 days from 2039-12-21 at 1", LAST - 10, LAST - 5, LAST);
+        days("5 days from 2039-12-21 at -1", LAST - 10, LAST - 5, LAST);
+        days("5 days from 2039-12-21 at 2,-2,99,-99");
+        FeastRules x = rule("5 days from 2000-1-1 by sat at 2");
+        Check.due("a saturday, before", x.period(0, 0, 0), 1);
+        Check.due("a saturday, behind", x.period(0, 0, 1), 0);
+        Check.due("a sunday, before", x.period(0, 1, 0), 0);
+    }
+
     private static void weeksWithoutBy() {
         days("1 weeks from 2000-1-1 count 2", 0, 7);
         days("1 weeks from 2000-1-2 count 2", 1, 8);
@@ -132,6 +143,9 @@ public final class EdgeDaysTest {
         days("1 months from 2000-1-1 on 31 until 2000-6-30", 30, 90, 151);
         days("12 months from 2000-2-1 on 29 until 2004-2-29", 59, d(2004, 2, 29));
         days("12 months from 2000-2-1 on 30,31,-30,-31");
+        // Each one of a row counts, not the last alone.
+        days("99 months from 2000-2-1 on 1,29,15,30 until 2000-2-29", 31, 45, 59);
+        days("99 months from 2000-2-1 on -1,-29,-15,-30 until 2000-2-29", 31, 45, 59);
     }
 
     private static void datesWithWeekdays() {
@@ -214,6 +228,9 @@ public final class EdgeDaysTest {
         Check.due("february 2000", rule("1 days from 2000-1-1 in 2 until 2000-12-31").many(0, 0, LAST), 29);
         Check.due("its last", rule("1 days from 2000-1-1 in 2 until 2000-12-31").nth(0, -1), 59);
         days("1 months from 2000-1-15 in 12,1 until 2001-1-31", 14, d(2000, 12, 15), d(2001, 1, 15));
+        // Places are taken among what the months leave: the tuesday is the first one in february.
+        days("99 weeks from 2000-1-31 by mon,tue in 2 at 1 until 2000-2-6", 31);
+        days("99 weeks from 2000-1-31 by mon,tue in 1 at -1 until 2000-2-6", 30);
     }
 
     private static void datesTold() {
@@ -221,6 +238,9 @@ public final class EdgeDaysTest {
         days("1 weeks from 2000-1-1 by sat,sun on 1,-1 until 2000-12-31", 0, d(2000, 4, 1), d(2000, 4, 30), d(2000, 7, 1), d(2000, 9, 30),
             d(2000, 10, 1), d(2000, 12, 31));
         days("1 weeks from 2000-1-1 on 29 until 2000-12-31", 28, d(2000, 4, 29), d(2000, 7, 29));
+        // Places are taken among what the dates leave.
+        days("99 weeks from 2000-1-3 by mon,tue,wed on 4,5 at 1 until 2000-1-9", 3);
+        days("99 months from 2000-1-1 on 1,2,3 by sun,mon at 1 until 2000-1-31", 1);
     }
 
     private static void weekdaysOfDays() {
@@ -324,6 +344,9 @@ public final class EdgeDaysTest {
         FeastRules off = Check.made("rule b every 7 weeks from 2000-1-1 by sat,sun count 6;set s is b off b;set t is day 2000-1-1,2000-2-19,2000-2-21 off b;");
         Check.days(off, 6, 2, 51, 100);
         Check.days(off, 7, 2, 51);
+        // Of the one ahead of it alone, not of all that was put together so far.
+        sum("day 2000-1-9 or day 2000-1-1 off f", 3, 8);
+        sum("day 2000-1-1 or day 2000-1-3 off f", 0, 3);
         // Whole: there is no day that is not of it.
         FeastRules all = Check.made("rule w every 1 days from 2000-1-1;set s is day 2000-1-1 off w;set n is w less w;set t is w off n;");
         Check.days(all, 6);
@@ -338,6 +361,13 @@ public final class EdgeDaysTest {
         Check.days(x, 9);
         Check.days(x, 10, 0, LAST);
         Check.days(x, 11);
+        // Two that have some days alike, and each one some that the other has not.
+        String two = "set a is day 2000-1-1,2000-1-2,2039-12-30;set b is day 2000-1-2,2039-12-30,2039-12-31;";
+        FeastRules y = Check.made(two + "set o is a or b;set n is a and b;set l is a less b;set m is b less a;");
+        Check.days(y, 8, 0, 1, LAST - 1, LAST);
+        Check.days(y, 9, 1, LAST - 1);
+        Check.days(y, 10, 0);
+        Check.days(y, 11, LAST);
     }
 
     private static void setsToldBehind() {

@@ -175,6 +175,20 @@ public final class EdgeSightTest {
         tells(seen("1 days from 2000-1-1", 0, 1, 425, 1, 424, 0, 420, 0), 17, 1);
     }
 
+    private static void tellsByTheMostThatAreLeft() {
+        // 1, 2, 3, 4, 6, 12 are left. Day 1 is of 1 alone, and five are left if it is not; day 2 and 3 are of two, day 4 of three.
+        tells(seen("1 days from 2000-1-1", 12, 1), 4, 3);
+        // Without 1 it is of two, and three are left if it is not; day 6 is of three, but behind it.
+        FeastRules x = seen("1 days from 2000-1-1", 60, 1, 12, 1, 5, 0);
+        fits(x, 2, 3, 4, 6, 12);
+        tells(x, 4, 3);
+        // Two left, and a day that is of one of them; three left, and no day halves them.
+        tells(seen("1 days from 2000-1-1", 9, 1, 1, 0), 3, 1);
+        FeastRules three = seen("1 days from 2000-1-1", 8, 1, 1, 0);
+        fits(three, 2, 4, 8);
+        tells(three, 2, 2);
+    }
+
     private static void tellsOnTheFirstAndLastDayOfAYear() {
         // 2001-01-01 is of some steps by years and of no day else of 2001.
         tells(seen("1 years from 2000-1-1", 366 + 30, 0), 366, 59);

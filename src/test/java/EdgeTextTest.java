@@ -30,6 +30,17 @@ public final class EdgeTextTest {
         fault(2, M + part + " ^" + (most + 1) + ";");
         fault(2, M + part + " -^" + (most + 1) + ";");
         fault(2, M + part + " 1,^9999;");
+        emptyRow(R, part);
+    }
+
+    /** A row has one at least, and one behind each comma. */
+    private static void emptyRow(String rule, String part) {
+        fault(1, rule + part + "^;");
+        fault(1, rule + part + " ^,1;");
+        fault(1, rule + part + " ^a;");
+        fault(1, rule + part + " ^until 2000-1-1;");
+        fault(1, rule + part + (part.equals(" by") ? " mon" : " 1") + ",^;");
+        fault(1, rule + part + (part.equals(" by") ? " mon" : " 1") + ",^,2;");
     }
 
     private static void statements() {
@@ -93,6 +104,7 @@ public final class EdgeTextTest {
         fault(2, R + " in ^13;");
         fault(2, R + " in 1,12,^13;");
         fault(1, R + " in ^-1;");
+        emptyRow(R, " in");
         Check.due("in 1,12", Check.made(R + " in 1,12;").rule(0, 3), 1 << 1 | 1 << 12);
     }
 
@@ -110,7 +122,13 @@ public final class EdgeTextTest {
             fault(2, rule + "-^0 mon;");
             fault(2, rule + "^54 mon;");
             fault(2, rule + "-^54 mon;");
+            fault(1, rule + "1^;");
+            fault(1, rule + "1 ^,2 mon;");
+            fault(1, rule + "mon ^1;");
         }
+        emptyRow(R, " by");
+        emptyRow(M, " by");
+        emptyRow("rule a every 1 weeks from 2000-1-1", " by");
     }
 
     private static void placesOfByWithMonthsAndYearsAlone() {
@@ -222,6 +240,30 @@ public final class EdgeTextTest {
         }
         Check.days(Check.made("set a is day 2000-4-9 sooner 99;"), 6, 0);
         Check.days(Check.made("set a is day 2039-9-23 later 99;"), 6, 14609);
+    }
+
+    private static void emptySums() {
+        fault(1, S + "^;");
+        fault(1, S + "(^);");
+        fault(1, S + "(a^;");
+        fault(1, S + "a^);");
+        fault(1, S + "((a)^;");
+        for (String word : new String[] {"or", "and", "less", "later", "sooner", "off"}) {
+            fault(1, S + "^" + word + " a;");
+            fault(1, S + "a " + word + "^;");
+            fault(1, S + "(a " + word + "^);");
+            fault(1, S + "a " + word + " ^or a;");
+        }
+        fault(1, S + "a later ^a;");
+        fault(1, S + "a off ^1;");
+        fault(1, S + "a off ^(a);");
+        fault(1, S + "day^;");
+        fault(1, S + "day ^a;");
+        fault(1, S + "day 2000-1-1,^;");
+        fault(1, S + "a ^a;");
+        fault(1, S + "a ^(a);");
+        right(S + "a;");
+        right(S + "(a);");
     }
 
     private static void eightDaysTold() {
@@ -339,7 +381,36 @@ public final class EdgeTextTest {
         fault(1, "rule a ^7777 1 days from 2000-1-1;");
         fault(1, R + " ^unti 2000-1-1;");
         fault(1, S + "a ^ore a;");
+        otherLetters("", "rule", " a every 1 days from 2000-1-1;");
+        otherLetters("rule a ", "every", " 1 days from 2000-1-1;");
+        for (String unit : UNITS) {
+            otherLetters("rule a every 1 ", unit, " from 2000-1-1;");
+        }
+        otherLetters("rule a every 1 days ", "from", " 2000-1-1;");
+        for (String part : new String[] {"in", "on", "at", "count"}) {
+            otherLetters(R + " ", part, " 1;");
+        }
+        otherLetters(R + " ", "by", " mon;");
+        otherLetters(R + " ", "until", " 2000-1-1;");
+        otherLetters(R + ";", "set", " b is a;");
+        otherLetters(R + ";set b ", "is", " a;");
+        for (String word : new String[] {"or", "and", "less", "off"}) {
+            otherLetters(S + "a ", word, " a;");
+        }
+        otherLetters(S + "a ", "later", " 1;");
+        otherLetters(S + "a ", "sooner", " 1;");
+        for (String day : new String[] {"mon", "tue", "wed", "thu", "fri", "sat", "sun"}) {
+            otherLetters(R + " by ", day, ";");
+        }
         fault(1, S + "a ^12;");
+    }
+
+    /** Each word of a text with another letter in one place of it is none. */
+    private static void otherLetters(String ahead, String word, String behind) {
+        for (int i = 0; i < word.length(); i++) {
+            fault(1, ahead + "^" + word.substring(0, i) + "q" + word.substring(i + 1) + behind);
+        }
+        right(ahead + word + behind);
     }
 
     private static void ownWordWhereANameIsAsked() {
@@ -347,6 +418,9 @@ public final class EdgeTextTest {
         fault(1, "set ^sooner is day 2000-1-1;");
         fault(1, S + "^or;");
         fault(1, S + "a off ^off;");
+        // What is no OWN WORD is a NAME there, and none that is told.
+        fault(3, S + "^dax;");
+        fault(3, S + "^xay 2000-1-1;");
     }
 
     private static void seventhLetter() {
