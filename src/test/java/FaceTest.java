@@ -8,6 +8,7 @@ import java.lang.reflect.Modifier;
 import java.nio.file.Files;
 import java.nio.file.Path;
 import java.util.ArrayDeque;
+import java.util.ArrayList;
 import java.util.Deque;
 import java.util.IdentityHashMap;
 import java.util.List;
@@ -30,6 +31,7 @@ public final class FaceTest {
         "boolean undo()", "boolean seed(int)", "int status(int)"};
 
     public static void main(String[] args) throws Exception {
+        document();
         face();
         names();
         String code = bare(Files.readString(SOURCE));
@@ -53,6 +55,26 @@ public final class FaceTest {
             s.append(s.charAt(s.length() - 1) == '(' ? "" : ",").append(p.getName());
         }
         return s + ")";
+    }
+
+    /** The face, and the head of each promise, as the document has them: without the names of parameters. */
+    private static void document() throws IOException {
+        String text = Files.readString(Path.of("../shared/DOC.md"));
+        told("the document's class", text.contains("public final class FeastRules {\n    public static final int NONE = -1;\n    public FeastRules();\n"));
+        Set<String> face = new TreeSet<>();
+        Matcher methods = Pattern.compile("(?m)^    public (\\w+ \\w+\\(.*\\));$").matcher(text);
+        while (methods.find()) {
+            face.add(methods.group(1).replaceAll("int \\w+(?=[,)])", "int").replace(", ", ","));
+        }
+        told("the document's face: " + face, face.equals(new TreeSet<>(List.of(FACE))));
+        List<String> promised = new ArrayList<>();
+        Matcher promises = Pattern.compile("(?m)^## Promise (\\d+): (\\w+)\n\n`(\\w+ (\\w+)\\(.*?\\))`:").matcher(text);
+        while (promises.find()) {
+            promised.add(promises.group(3).replaceAll("int \\w+(?=[,)])", "int").replace(", ", ","));
+            Check.due("number of the promise of " + promises.group(2), Integer.parseInt(promises.group(1)), promised.size() + 1);
+            told("its head: " + promises.group(2), promises.group(2).equals(promises.group(4)));
+        }
+        told("a promise for each: " + promised, promised.equals(List.of(FACE)));
     }
 
     private static void face() throws Exception {
