@@ -381,6 +381,56 @@ public final class EdgeActsTest {
         Check.due("undo", y.undo(), false);
     }
 
+    private static void undoneOnTheFirstAndLastDay() {
+        for (int set = 0; set < 6; set++) {
+            FeastRules x = Check.made(Texts.sets(6));
+            x.leave(set, 0);
+            x.add(set, LAST);
+            Check.days(x, 6 + set, LAST);
+            Check.due("leave, of set " + set, x.leave(set, LAST), true);
+            has(x, 0, 1, 3);
+            Check.due("undo", x.undo(), true);
+            has(x, 1, 1, 2);
+            Check.days(x, 6 + set, LAST);
+            Check.due("undo", x.undo(), true);
+            has(x, 0, 1, 1);
+            Check.days(x, 6 + set);
+            Check.due("undo", x.undo(), true);
+            has(x, 0, 0, 0);
+            for (int other = 0; other < 6; other++) {
+                Check.days(x, 6 + other, 0);
+            }
+        }
+    }
+
+    /** Sets that were asked for in between are as they were, whichever act is undone behind that. */
+    private static void undoneBehindAnotherStep() {
+        String text = "rule a every 2 days from 2000-1-1 count 30;set s is a;set t is a later 1;set u is s or t later 9;set v is u off s;";
+        for (int set = 0; set < 4; set++) {
+            FeastRules x = Check.made(text);
+            FeastRules twin = Check.made(text);
+            int day = x.nth(6 + set, 2);
+            x.leave(set, day);
+            x.add(set, day);
+            x.every(0, 3);
+            for (int what = 6; what < 10; what++) {
+                x.sum(what);
+            }
+            Check.due("undo", x.undo(), true);
+            Check.due("undo", x.undo(), true);
+            twin.leave(set, day);
+            for (int what = 6; what < 10; what++) {
+                Check.due("sum(" + what + "), of set " + set, x.sum(what), twin.sum(what));
+            }
+            Check.due("undo", x.undo(), true);
+            Check.due("undo", twin.undo(), true);
+            for (int what = 9; what >= 6; what--) {
+                Check.due("sum(" + what + "), undone", x.sum(what), twin.sum(what));
+                Check.due("sum(" + what + "), as told", x.sum(what), Check.made(text).sum(what));
+            }
+        }
+    }
+
     private static void undoneFromTheLatest() {
         FeastRules x = book();
         x.add(0, 1);

@@ -232,6 +232,42 @@ public final class EdgeCallsTest {
         }
     }
 
+    /** Texts.sets(6) has day 0 in each set: one is added to each, and that one is left out. */
+    private static void sixSetsAreFresh() {
+        FeastRules x = Check.made(Texts.sets(6));
+        for (int set = 0; set < 6; set++) {
+            Check.due("add(" + set + ", 9)", x.add(set, 9), true);
+            Check.due("leave(" + set + ", 0)", x.leave(set, 0), true);
+        }
+        Check.due("ADDED", x.has(2), 6);
+        Check.due("LEFT OUT", x.has(3), 6);
+        Check.due("book()", Check.book(x, Texts.sets(6)), 6);
+        Check.due("nothing ADDED", x.has(2), 0);
+        Check.due("nothing LEFT OUT", x.has(3), 0);
+        for (int set = 0; set < 6; set++) {
+            Check.days(x, 6 + set, 0);
+        }
+    }
+
+    private static void nothingOfOlderBooks() {
+        String[] sums = {"a", "a later 1", "a later 1 sooner 2 later 3", "a off b", "(a or b) and (b or a less b) off a", "day 2000-1-7",
+            "day 2000-1-1,2000-1-2,2000-1-3 later 9", "a or b or a or b", "a less b sooner 99"};
+        for (String one : sums) {
+            for (String other : sums) {
+                FeastRules x = Check.made(ofTwoRules(one));
+                // A short one lies where a longer one was, whichever of the two ahead it was.
+                for (String sum : new String[] {other, "a", one, "b", other}) {
+                    Check.book(x, ofTwoRules(sum));
+                    Check.due(sum + " behind " + one + " and " + other, x.sum(6), Check.made(ofTwoRules(sum)).sum(6));
+                }
+            }
+        }
+    }
+
+    private static String ofTwoRules(String sum) {
+        return "rule a every 2 days from 2000-1-5 count 9;rule b every 3 days from 2000-1-4 count 9;set s is " + sum + ";";
+    }
+
     private static void tapeGoesWithABook() {
         FeastRules x = new FeastRules();
         Check.due("book()", Check.book(x, "set a is day 2000-1-1;"), 1);

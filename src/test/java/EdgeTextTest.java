@@ -553,6 +553,15 @@ public final class EdgeTextTest {
         fault(5, S + "((((((^(a)))))));");
         fault(5, S + "((((((a)or(^(a");
         fault(5, S + "a or((((((^(");
+        for (String word : new String[] {"or", "and", "less"}) {
+            // Those that are open around it count behind each word, those that are closed or stand side by side do not.
+            fault(5, S + "(((a " + word + "(((^(a");
+            fault(5, S + "(a " + word + " a " + word + "(((((^(a");
+            fault(5, S + "((((((a " + word + "^(a");
+            fault(5, S + "(((((a " + word + "(a later 1 " + word + "^(a");
+            right(S + "(a " + word + " a " + word + " a " + word + "(((((a))))));");
+            right(S + "(((" + "(((a)))" + word + "(((a)))" + word + "(((a)))" + ")));");
+        }
         Check.days(Check.made(sixOpen(" count 9", "less")), 6, 0, 1, 2, 3, 5, 6, 7, 8, 31);
         Check.days(Check.made(sixOpen("", "and")), 6, 4, 31, 32, 33, 34, 35, 36, 37);
     }
